@@ -8,6 +8,7 @@ public final class LandTest {
         oneLayer();
         twoLayers();
         lowAndHigh();
+        edgesOfMargin();
         edgeOfAhead();
         edgeOfSure();
         largest();
@@ -30,6 +31,8 @@ public final class LandTest {
         allOpen(x, "a layer of which none is known", true, true, false);
         Check.sheet(x, 2, 1, 5, 3, 0, 8);
         allOpen(x, "a layer with all known, but one only", false, true, false);
+        x.sum(0, -1, 1);
+        CHECK.fraction(x, "two of two, and one of one", 15, 1);
         CHECK.refused(x, "b is above a, but doubt is open", x.ahead(1, 0, 1), 5);
     }
 
@@ -145,6 +148,27 @@ public final class LandTest {
         CHECK.fraction(x, "none known", 0, 1);
         CHECK.told(x, "high of none known", x.worst(1, 3, true), 1);
         CHECK.fraction(x, "3 by 2 times 200", 300, 1);
+    }
+
+    private static void edgesOfMargin() {
+        CHECK.due("4 times doubt is 24 by 25", marginOf(6, 0, 0, 0, 0, 1), 1);
+        CHECK.due("4 times doubt is 5 by 4", marginOf(5, 0, 0, 0, 1), 2);
+        CHECK.due("4 times doubt is 16", marginOf(4, 0, 0, 3), 4);
+        CHECK.due("4 times doubt is 12", marginOf(3, 0, 2), 4);
+        CHECK.due("4 times doubt is 0", marginOf(3, 2, 2), 0);
+    }
+
+    /** All of so many POLLS DRAWN, the first ones KNOWN, with these votes of PARTY 1. */
+    private static int marginOf(int many, int... votes) {
+        QuickCount x = new QuickCount();
+        for (int i = 0; i < many; i++) {
+            x.poll(0, 10);
+        }
+        x.draw(0, many, 1);
+        for (int i = 0; i < votes.length; i++) {
+            Check.sheet(x, i, 1, 0, votes[i], 0, votes[i]);
+        }
+        return x.margin(1, -1, 1);
     }
 
     /** With 3 of 4 KNOWN, the square of SUM is above 4 times DOUBT if their square is above their squares. */

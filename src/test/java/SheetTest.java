@@ -112,6 +112,11 @@ public final class SheetTest {
         CHECK.refused(x, "no slip", x.slip(0, 0), 6);
         CHECK.refused(x, "no slip", x.slip(1, 0), 6);
         CHECK.done(x, "none that is none", x.habit(4, 9, false));
+        for (int a = 0; a < 10; a++) {
+            for (int b = 0; b < 10; b++) {
+                CHECK.due("any two figures but like ones", x.habit(a, b, true), a != b);
+            }
+        }
     }
 
     private static void slips() {
@@ -156,6 +161,7 @@ public final class SheetTest {
         for (int number = 0; number < 5; number++) {
             CHECK.told(x, "number " + number, x.slip(0, number), 100 * number + 6);
         }
+        Check.sheet(x, 0, 0, 1, 1, 1, 1, 1, 5);
         CHECK.told(x, "all", x.slip(0, 5), 505);
         CHECK.refused(x, "no more", x.slip(0, 6), 6);
     }
@@ -179,6 +185,12 @@ public final class SheetTest {
         Check.sheet(x, 0, 0, 90, 90, 0, 180);
         x.habit(9, 5, true);
         CHECK.refused(x, "above the roll, votes right: no one figure", x.slip(3, 0), 6);
+        Check.sheet(x, 0, 0, 90, 10, 9, 100);
+        CHECK.refused(x, "9 is 5 by habit, not 0", x.slip(4, 0), 6);
+        x.habit(9, 0, true);
+        CHECK.told(x, "votes mended with all at the roll", x.slip(4, 0), 200);
+        Check.sheet(x, 0, 0, 10, 20, 0, 20);
+        CHECK.told(x, "the first figure of 10", x.slip(5, 0), 10);
     }
 
     private static void known() {
@@ -198,6 +210,10 @@ public final class SheetTest {
         CHECK.told(x, "at it", x.known(0, 9), 4);
         CHECK.told(x, "the last minute", x.known(0, 10000), 4);
         CHECK.told(x, "another poll", x.known(1, 10000), 1);
+        QuickCount y = new QuickCount();
+        y.poll(0, 100);
+        Check.sheet(y, 0, 0, 1, 1, 0, 2);
+        CHECK.told(y, "sheet 0 at minute 0", y.known(0, 0), 0);
         int[][] wrong = {{-1, 5}, {2, 5}, {0, -1}, {0, 10001}, {Integer.MAX_VALUE, 5}, {0, Integer.MIN_VALUE}};
         for (int[] w : wrong) {
             CHECK.refused(x, "known " + w[0] + " " + w[1], x.known(w[0], w[1]), 1);

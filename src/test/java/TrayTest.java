@@ -26,10 +26,12 @@ public final class TrayTest {
         }
         CHECK.done(x, "an empty tray", x.tray(1, 0, 0));
         CHECK.refused(x, "has no place", x.read(1, 0), 4);
+        x.write(2, 0, 76);
         x.write(2, 3, 77);
         CHECK.refused(x, "refused tray", x.tray(2, 0, 21), 1);
         CHECK.told(x, "changes nothing", x.read(2, 3), 77);
         CHECK.done(x, "anew", x.tray(2, 2, 5));
+        CHECK.told(x, "is of 0s", x.read(2, 0), 0);
         CHECK.told(x, "is of 0s", x.read(2, 3), 0);
         x.write(2, 4, 9);
         x.tray(2, 2, 2);
