@@ -9,6 +9,7 @@ public final class LandTest {
         twoLayers();
         lowAndHigh();
         edgesOfMargin();
+        marginJustAboveASquare();
         edgeOfAhead();
         edgeOfSure();
         largest();
@@ -156,6 +157,25 @@ public final class LandTest {
         CHECK.due("4 times doubt is 16", marginOf(4, 0, 0, 3), 4);
         CHECK.due("4 times doubt is 12", marginOf(3, 0, 2), 4);
         CHECK.due("4 times doubt is 0", marginOf(3, 2, 2), 0);
+    }
+
+    /** DOUBT 3 by 2 times 2, and 10 by 3: 4 times it is 25 and 1 by 3. */
+    private static void marginJustAboveASquare() {
+        QuickCount x = new QuickCount();
+        for (int i = 0; i < 8; i++) {
+            x.poll(i < 3 ? 0 : 1, 10);
+        }
+        x.draw(0, 3, 1);
+        x.draw(1, 5, 1);
+        int[] votes = {0, 2, -1, 0, 1, 2};
+        for (int i = 0; i < votes.length; i++) {
+            if (votes[i] >= 0) {
+                Check.sheet(x, i, 1, votes[i], 0, 0, votes[i]);
+            }
+        }
+        CHECK.told(x, "doubt", x.doubt(0, -1, 1), 1);
+        CHECK.fraction(x, "doubt", 19, 3);
+        CHECK.told(x, "margin", x.margin(0, -1, 1), 6);
     }
 
     /** All of so many POLLS DRAWN, the first ones KNOWN, with these votes of PARTY 1. */
