@@ -94,6 +94,10 @@ final class LandEdges {
 
     private static void sumAnswers(Edges edges) {
         Edge edge = edges.of(20, LIKE_SUM);
+        edge.with(Scenes::busy).tells("2 times 61, and 19, after another fraction", x -> x.sum(0, -1, 7), 1, 141, 1)
+            .with(x -> x.sum(0, 1, 7)).tells("and after another sum", x -> x.sum(0, -1, 7), 1, 141, 1);
+        edge.with(layer(0, 1, -1)).tells("-1", x -> x.sum(0, 1, 5), -1, -1, 1).tells("1", x -> x.sum(1, 0, 5), 1, 1, 1);
+        edge.with(layer(0, 3, -1, -1, 0)).with(layer(1, 1, 1)).tells("-1 again", x -> x.sum(0, 1, 5), -1, -1, 1);
         edge.with(layer(0, 40, 1, 0)).tells("the least above 0", x -> x.sum(0, 1, 5), 1, 20, 1);
         edge.with(layer(0, 3, 1, -1)).tells("at 0", x -> x.sum(0, 1, 5), 0, 0, 1);
         edge.with(layer(0, 3, 0, -1)).tells("below 0", x -> x.sum(0, 1, 5), -1, -3, 2).tells("no votes of a", x -> x.sum(0, -1, 5), 0, 0, 1);
@@ -129,6 +133,8 @@ final class LandEdges {
         Edge edge = edges.of(21, "DOUBT: for each LAYER N times (N less m) by m, times the SPREAD of what the KNOWN ones have; all together; "
             + "it can be told, if each m is 2 or more (else 5).");
         edge.refused("no draw", x -> x.doubt(0, -1, 5), 5);
+        edge.with(Scenes::busy).tells("4 times 81 by 2, after another fraction", x -> x.doubt(0, 1, 7), 1, 162, 1)
+            .with(x -> x.doubt(0, 1, 7)).tells("and once more", x -> x.doubt(0, 1, 7), 1, 162, 1);
         edge.with(layer(0, 1, 5)).refused("m is 1, which is all", x -> x.doubt(0, -1, 5), 5);
         edge.with(layer(0, 3, 5)).refused("m is 1", x -> x.doubt(0, -1, 5), 5).tells("but sum is told", x -> x.sum(0, -1, 5), 1, 15, 1);
         edge.with(layer(0, 3, 5, 1)).tells("m is 2: 3 by 2 times 8", x -> x.doubt(0, -1, 5), 1, 12, 1)
@@ -161,6 +167,8 @@ final class LandEdges {
         edge.with(layer(0, 3, 0, 2)).taken("12", x -> x.margin(0, -1, 5), 4);
         edge.with(layer(0, 3, 0, 2)).with(layer(1, 5, 0, 1, 2)).taken("25 and 1 by 3", x -> x.margin(0, -1, 5), 6);
         edge.with(layer(0, 40, 2000, -2000)).taken("24,320,000,000", x -> x.margin(0, 1, 5), 155949);
+        edge.with(Scenes::busy).taken("648", x -> x.margin(0, 1, 7), 26)
+            .with(x -> x.margin(0, 1, 7)).taken("once more", x -> x.margin(0, 1, 7), 26);
         edge.with(layer(0, 1, 5)).refused("m is 1", x -> x.margin(0, -1, 5), 5);
         edge.with(layer(0, 2, 5, 1)).taken("m is 2, which is all", x -> x.margin(0, -1, 5), 0)
             .with(x -> x.sum(0, -1, 5)).asks("it tells no fraction", x -> x.margin(0, -1, 5) + x.top(), 6);
@@ -205,6 +213,10 @@ final class LandEdges {
         Edge edge = edges.of(24, "AHEAD is a PARTY a of b, if SUM of a less b is above 0, its square above 4 times its DOUBT;");
         edge.with(layer(0, 4, 1, 0, 0)).taken("the square at 4 times doubt", x -> x.ahead(0, 1, 5), 0);
         edge.with(layer(0, 4, 1, 1, 0)).taken("the square above it", x -> x.ahead(0, 1, 5), 1);
+        edge.with(layer(0, 3, 3, 1)).taken("the square of 6 above 12", x -> x.ahead(0, 1, 5), 1)
+            .with(x -> x.ahead(0, 1, 5)).taken("once more", x -> x.ahead(0, 1, 5), 1);
+        edge.with(layer(0, 3, 10, 1)).taken("272.25 above 4 times 60.75", x -> x.ahead(0, 1, 5), 1);
+        edge.with(layer(0, 3, 8, 0)).taken("144 below 4 times 48", x -> x.ahead(0, 1, 5), 0);
         edge.with(layer(0, 4, 2, 0, -1)).taken("the square below it", x -> x.ahead(0, 1, 5), 0);
         edge.with(layer(0, 4, -1, -1, 0)).taken("sum below 0, its square above", x -> x.ahead(0, 1, 5), 0)
             .taken("the other way round", x -> x.ahead(1, 0, 5), 1);

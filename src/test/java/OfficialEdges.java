@@ -23,6 +23,17 @@ final class OfficialEdges {
         edge.with(x -> Check.official(x, 0, 40, 31, 9999)).taken("told anew", x -> x.off(0, 2, 7), 9979)
             .taken("each party", x -> x.off(0, 0, 7), 0).taken("each party", x -> x.off(0, 1, 7), 1)
             .taken("another poll stays", x -> x.off(4, 1, 7), 1);
+        edges.of(25, "OFFICIAL numbers of a POLL: votes of each PARTY, told once or anew.").with(x -> {
+            x.parties(4);
+            Scenes.polls(40, 0, 10).on(x);
+            Check.fill(x, 0, 1, 1, 1, 1, 0, 4);
+            Check.fill(x, 1, 5, 6, 7, 8, 9);
+            for (int i = 39; i >= 0; i--) {
+                x.sheet(i, 0, 0);
+                x.official(i, 1);
+            }
+        }).taken("the first of 40 polls", x -> x.off(0, 0, 0), 4).taken("its last party", x -> x.off(0, 3, 0), 7)
+            .taken("the second", x -> x.off(1, 0, 0), 4).taken("the last", x -> x.off(39, 3, 0), 7);
         edge.with(x -> Check.official(x, 0, 0, 0, 0)).taken("by 0s", x -> x.off(0, 0, 7), -40);
         edge.with(x -> Check.official(x, 0, 0, 0, 0)).with(x -> x.write(1, 0, 5)).taken("as the tray was then", x -> x.off(0, 0, 7), -40);
     }
@@ -107,6 +118,8 @@ final class OfficialEdges {
             .taken("together below 0", x -> x.offs(2, 2, 10000), -2)
             .taken("one minute ahead of poll 4", x -> x.offs(1, 0, 4), 0).taken("at its minute", x -> x.offs(1, 0, 5), 1)
             .taken("ahead of all", x -> x.offs(0, 2, 2), 0);
+        busy.with(x -> x.offs(2, 2, 7)).with(x -> x.offs(0, 1, 7)).taken("once more", x -> x.offs(2, 0, 7), 1)
+            .taken("above 0 after below 0", x -> x.offs(0, 1, 7), 1).taken("together once more", x -> x.offs(2, 2, 7), -2);
         busy.with(x -> Check.official(x, 1, 21, 20, 11)).taken("-1 together is no NONE", x -> x.offs(2, 2, 7), -1)
             .taken("two", x -> x.offs(2, 0, 7), 2).taken("one above 0", x -> x.offs(2, 1, 7), 1);
         busy.with(x -> Check.official(x, 1, 21, 20, 12)).taken("0 together", x -> x.offs(2, 2, 7), 0);
@@ -163,7 +176,8 @@ final class OfficialEdges {
     private static void leanRefused(Edges edges) {
         Edge edge = edges.of(28, "The FRACTION is LEAN: 1 (1).").with(Scenes::busy);
         edge.tells("the first party", x -> x.lean(0, 7), 1, 1, 2).tells("the last party", x -> x.lean(2, 10000), 1, 1, 1)
-            .tells("minute 0", x -> x.lean(0, 0), 1, 1, 1);
+            .tells("minute 0", x -> x.lean(0, 0), 1, 1, 1)
+            .with(x -> x.lean(0, 7)).tells("once more", x -> x.lean(0, 7), 1, 1, 2);
         int[][] wrong = {{-1, 7}, {3, 7}, {LEAST, 7}, {MOST, 7}, {0, -1}, {0, 10001}, {0, LEAST}, {0, MOST}};
         for (int[] w : wrong) {
             edge.refused("lean " + w[0] + ", " + w[1], x -> x.lean(w[0], w[1]), 1);

@@ -39,6 +39,19 @@ final class SheetEdges {
             .refused("the 121st, of a later minute", x -> x.sheet(0, 0, 10000), 7)
             .taken("the last is known", x -> x.known(1, 10000), 119).taken("the first", x -> x.known(0, 0), 0)
             .refused("no 121st", x -> x.good(120), 1);
+        Edge six = edges.of(14, "SHEETS, at most 120, numbered as they come:").with(x -> {
+            x.parties(4);
+            x.poll(0, 10);
+            x.habit(5, 6, true);
+            Check.fill(x, 0, 1, 1, 1, 1, 1, 6, 9);
+            for (int i = 0; i < 120; i++) {
+                x.sheet(0, 0, 0);
+            }
+        });
+        for (int sheet : new int[] {0, 1, 118, 119}) {
+            six.taken("six numbers of sheet " + sheet, x -> x.slip(sheet, 0), 505);
+        }
+        six.refused("the 121st of six numbers", x -> x.sheet(0, 0, 0), 7);
     }
 
     private static void minutes(Edges edges) {
@@ -116,6 +129,7 @@ final class SheetEdges {
                     x.write(2, i, 1);
                 }
                 x.write(2, p + 1, p + 1);
+                x.write(2, p + 2, 5);
                 x.sheet(0, 2, 0);
                 x.write(2, 0, 2);
                 x.sheet(0, 2, 0);
@@ -234,6 +248,9 @@ final class SheetEdges {
         Edge zero = edges.of(17, "(A first figure may become 0.)").with(habit(0, 1));
         zero.with(sheet(11, 5, 0, 6)).taken("11 becomes 01", x -> x.slip(0, 0), 10);
         zero.with(sheet(1, 5, 0, 5)).taken("1 becomes 0", x -> x.slip(0, 0), 0);
+        zero.with(sheet(10, 5, 0, 5)).taken("10 becomes 00", x -> x.slip(0, 0), 10);
+        zero.with(sheet(100, 5, 0, 5)).taken("100 becomes 000", x -> x.slip(0, 0), 20);
+        zero.with(sheet(1000, 5, 0, 5)).taken("1000 becomes 0000", x -> x.slip(0, 0), 30);
         zero.with(sheet(5, 5, 0, 1010)).taken("1010 becomes 0010", x -> x.slip(0, 0), 330);
     }
 
