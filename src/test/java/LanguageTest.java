@@ -8,6 +8,7 @@ import java.nio.file.Path;
 import java.util.Arrays;
 import java.util.List;
 import java.util.TreeSet;
+import java.util.regex.Matcher;
 import java.util.regex.Pattern;
 
 /** The face of the class, and rules of LANGUAGE.md that can be seen in its text. Runs from the project's root. */
@@ -25,10 +26,13 @@ public final class LanguageTest {
         "->", "::", "\\bimport\\b", "\\bpackage\\b", "\\bThread\\b", "\\bRandom\\b", "Exact\\b", "\\bObject\\b",
         "\\bprotected\\b", "\\bnew [A-Z]\\w*\\([^)]*\\) *\\{", "\\bstatic \\{"};
 
+    private static final String LIBRARY = "(Math|Integer|Long)\\.\\w+\\(|System\\.arraycopy\\(|Arrays\\.(copyOf|copyOfRange|fill)\\(";
+
     public static void main(String[] args) throws IOException {
         face();
         members();
         words();
+        lengths();
         CHECK.end();
     }
 
@@ -40,10 +44,17 @@ public final class LanguageTest {
                 found.add(m.getReturnType() + " " + m.getName() + "(" + types.substring(1, types.length() - 1) + ")");
             } else {
                 CHECK.due(m + " is private", Modifier.isPrivate(m.getModifiers()), true);
+                own(m);
             }
         }
         CHECK.due("the methods are the document's", found.equals(new TreeSet<>(FACE)), true);
         CHECK.due("public and final", QuickCount.class.getModifiers(), Modifier.PUBLIC | Modifier.FINAL);
+    }
+
+    /** A method that is not of the face. */
+    private static void own(Method m) {
+        CHECK.due(m + " bears no name of the face", FACE.stream().anyMatch(f -> f.contains(" " + m.getName() + "(")), false);
+        CHECK.due(m + " has at most seven parameters", m.getParameterCount() <= 7, true);
     }
 
     private static void members() {
@@ -60,8 +71,7 @@ public final class LanguageTest {
             CHECK.due(inside + " is static", Modifier.isStatic(inside.getModifiers()), true);
             fields = Math.max(fields, inside.getDeclaredFields().length);
             for (Method m : inside.getDeclaredMethods()) {
-                CHECK.due(m + " bears no name of the face", FACE.stream().anyMatch(f -> f.contains(" " + m.getName() + "(")), false);
-                CHECK.due(m + " has at most seven parameters", m.getParameterCount() <= 7, true);
+                own(m);
             }
         }
         CHECK.due("fields of a class", fields <= 20, true);
@@ -74,6 +84,25 @@ public final class LanguageTest {
         for (String word : RULED_OUT) {
             CHECK.due("code with " + word, Pattern.compile(word).matcher(code).find(), false);
         }
+        Matcher library = Pattern.compile("\\b[A-Z]\\w*[a-z]\\w*\\.\\w+\\(").matcher(code);
+        while (library.find()) {
+            CHECK.due(library.group() + " is of the library that may be used", library.group().matches(LIBRARY), true);
+        }
         CHECK.due("ASCII", text.chars().allMatch(c -> c < 128), true);
+    }
+
+    /** Methods stay short: their ends are seen by how far they stand in. */
+    private static void lengths() throws IOException {
+        List<String> lines = Files.readAllLines(Path.of("src/main/java/QuickCount.java"));
+        int start = 0;
+        for (int i = 0; i < lines.size(); i++) {
+            String line = lines.get(i);
+            if (line.matches(" +(public|private) .*\\) \\{")) {
+                start = i;
+            } else if (line.matches(" {4}( {4})?\\}")) {
+                CHECK.due("line " + (start + 1) + " begins a short method", i - start < 60, true);
+                start = i;
+            }
+        }
     }
 }
